@@ -166,6 +166,17 @@ public final class PromisesTest {
                 "N:15,N:0,N:o,0 N:9999,N:0,N:o,0 N:a0,N:p,V:7,0 N:b,N:p,N:o,0");
         due("one more row", x.row(1, -9, 1, 1, 1), 2);
         due("its triple was given already", x.triple(3, 7), 2);
+        // The highest cell in every column, and none looked at behind the last one, for each width.
+        for (int width = 1; width <= 4; width++) {
+            MappingText y = new MappingText();
+            y.source(width);
+            int far = Integer.MAX_VALUE;
+            due("the highest cells", y.row(0, 9999, width > 1 ? 9999 : far, width > 2 ? 9999 : far, width > 3 ? 9999 : far), 0);
+            due("the last cell above", y.row(0, width == 1 ? 10000 : 0, width == 2 ? 10000 : 0, width == 3 ? 10000 : 0,
+                    width == 4 ? 10000 : 0), BAD);
+            dueRead(y, "map 0:\"s\" \"p\" $" + (width - 1) + ".", 1);
+            due("its last cell", allTriples(y), "N:s,N:p,V:9999,0");
+        }
     }
 
     private static void change() {
@@ -244,15 +255,14 @@ public final class PromisesTest {
 
     private static void readPlacesThatAreWrong() {
         promise = "6 read, WRONG";
-        MappingText x = twoSources();
         String good = "map 0:_0 \"p\" $0";
-        String[] texts = {"x", "map", "map ", "map\n\n", "mapp 0:", "ma 0:", "map x", "map :", "map 0 0", "map 0:",
+        String[] texts = {"zoo", "a", "map", "map ", "map\n\n", "mapp 0:", "ma 0:", "map x", "map :", "map 0 0", "map 0", "map 0 map 0", "map 0:",
             "map 0:$0", "map 0:0", "map 0:_", "map 0:_x", "map 0:_0 _0", "map 0:_0 $0", "map 0:_0", "map 0:_0 \"p\"",
             "map 0:_0 \"p\" 0", "map 0:_0 \"p\" .", "map 0:_0 \"p\" $", "map 0:_0 \"p\" $.", good, good + "00001.",
             good + " of", good + " of .", good + " of x", good + " of 1", good + " of 1.", good + " of 1 by",
             good + " of 1 by 0", good + " of 1 by 0.", good + " of 1 by 0 0", good + " of 1 by 0 0 0.",
             good + " of 1 by 000000030.", good + " if", good + " if.", good + " if 0", good + " if $", good + " if $x",
-            good + " if $0", good + " if $0.", good + " if $0 : 1.", good + " if $0=", good + " if $0=x.",
+            good + " if $0", good + " if $0.", good + " if $0 : 1.", good + " if $0=", good + " if $0=.", good + " if $0=map", good + " if $0=x.",
             good + " if $0==1.", good + " if $0=12345.", good + " if null", good + " if null 0.",
             good + " if null null $0.", good + " if null $", good + " if null $0=1.", good + " if null $0 if null $0.",
             good + " in", good + " in.", good + " in 1", good + " in 1 in 1.", good + " in 1 if null $0.",
@@ -262,13 +272,13 @@ public final class PromisesTest {
             "map 0:\"{", "map 0:\"{}\"", "map 0:\"{x}\"", "map 0:\"{ 0}\"", "map 0:\"{0 }\"", "map 0:\"{0",
             "map 0:\"{0{0}\"", "map 0:\"{00000}\"", "map 0:\"{0000}\\\\\\a\"", "map 0:_0 \"\u007f\"", "map 0:\"\u00e9",
             "map 0:\"a\"\"b\"\"c\"\"d\".", "if", "in", "of", "by", "null", "nullnull", "1", "_"};
-        int[] places = {0, 3, 4, 5, 0, 0, 4, 4, 6, 6,
+        int[] places = {0, 0, 3, 4, 5, 0, 0, 4, 4, 6, 5, 6, 6,
             6, 6, 7, 7, 9, 9, 8, 12,
             13, 13, 14, 14, 15, 18,
             18, 19, 19, 20, 20, 23,
             25, 25, 27, 28,
             32, 18, 18, 19, 20, 20,
-            21, 21, 22, 22, 22,
+            21, 21, 22, 22, 22, 22, 22,
             22, 26, 23, 24,
             24, 25, 26, 27,
             18, 18, 20, 21, 21,
@@ -280,7 +290,7 @@ public final class PromisesTest {
             15, 0, 0, 0, 0, 0, 0, 0, 0};
         due("places told", places.length, texts.length);
         for (int i = 0; i < texts.length && i < places.length; i++) {
-            dueRead(x, texts[i], -10 - places[i]);
+            dueRead(twoSources(), texts[i], -10 - places[i]);
         }
     }
 
@@ -364,23 +374,32 @@ public final class PromisesTest {
     private static void triplesAreDifferentAndOrdered() {
         promise = "7 triples";
         MappingText x = twoSources();
-        int[] cells = {9, 10, 100, 1, 10};
+        int[] cells = {9, 10, 100, 1, 1000, 10};
         for (int cell : cells) {
             x.row(0, cell, 5, 0, 0);
         }
         due("triples without mappings", x.triples(), 0);
         dueRead(x, "map 0:\"{0}\" \"p\" \"o\".", 1);
-        due("as rows of bytes", allTriples(x), "N:1,N:p,N:o,0 N:10,N:p,N:o,0 N:100,N:p,N:o,0 N:9,N:p,N:o,0");
+        due("as rows of bytes", allTriples(x), "N:1,N:p,N:o,0 N:10,N:p,N:o,0 N:100,N:p,N:o,0 N:1000,N:p,N:o,0 "
+                + "N:9,N:p,N:o,0");
         dueRead(x, "map 0:\"s\" \"p\" $0. map 0:\"s\" \"p\" _0. map 0:\"s\" \"p\" \"{0}\".", 3);
-        due("by kinds", allTriples(x), "N:s,N:p,N:1,0 N:s,N:p,N:10,0 N:s,N:p,N:100,0 N:s,N:p,N:9,0 "
-                + "N:s,N:p,B:0.1,0 N:s,N:p,B:0.10,0 N:s,N:p,B:0.100,0 N:s,N:p,B:0.9,0 "
-                + "N:s,N:p,V:1,0 N:s,N:p,V:10,0 N:s,N:p,V:100,0 N:s,N:p,V:9,0");
+        due("by kinds", allTriples(x), "N:s,N:p,N:1,0 N:s,N:p,N:10,0 N:s,N:p,N:100,0 N:s,N:p,N:1000,0 "
+                + "N:s,N:p,N:9,0 N:s,N:p,B:0.1,0 N:s,N:p,B:0.10,0 N:s,N:p,B:0.100,0 N:s,N:p,B:0.1000,0 N:s,N:p,B:0.9,0 "
+                + "N:s,N:p,V:1,0 N:s,N:p,V:10,0 N:s,N:p,V:100,0 N:s,N:p,V:1000,0 N:s,N:p,V:9,0");
+        x = twoSources();
+        x.row(0, 1, 5, 0, 0);
         dueRead(x, "map 0:_1 \"b\" \"x\" in 3. map 0:_1 \"b\" \"x\". map 0:_1 \"ab\" \"y\" in 9."
                 + "map 0:_1 \"b\" \"w\" in 5. map 0:\"z\" \"z\" \"z\". map 0:_1 \"b\" \"x\" in 0.", 6);
         due("by terms, then graphs", allTriples(x), "N:z,N:z,N:z,0 B:0.5,N:ab,N:y,9 B:0.5,N:b,N:w,5 "
                 + "B:0.5,N:b,N:x,0 B:0.5,N:b,N:x,3");
         due("triples", x.triples(), 5);
-        // Long names that differ in their last byte alone, or by an end.
+        triplesWithLongNames();
+    }
+
+    private static void triplesWithLongNames() {
+        MappingText x = twoSources();
+        x.row(0, 1, 5, 0, 0);
+        // Names that differ in their last byte alone, or by an end.
         dueRead(x, "map 0:\"aaaaaaaaaaaaaaaaaaab\" \"p\" \"o\". map 0:\"aaaaaaaaaaaaaaaaaaaa\" \"p\" \"o\"."
                 + "map 0:\"aaaaaaaaaaaaaaaaaaa\" \"p\" \"o\". map 0:\"aaaaaaa\" \"p\" \"o\". map 0:\"aaaaaaaa\" \"p\" \"o\".", 5);
         due("long names", allTriples(x), "N:aaaaaaa,N:p,N:o,0 N:aaaaaaaa,N:p,N:o,0 N:aaaaaaaaaaaaaaaaaaa,N:p,N:o,0 "
@@ -607,16 +626,25 @@ public final class PromisesTest {
         due("print()", x.print(), due.length());
         dueRead(x, due, 5);
         due("what was printed, read and printed again", printed(x), due);
+        printOfFullTexts();
+    }
+
+    private static void printOfFullTexts() {
         // A text without blanks grows the most.
         MappingText y = twoSources();
         dueRead(y, "map0:_0\"p\"$0of1by00000if$0<0in0.".repeat(6), 6);
         due("printed", printed(y), "map 0 : _0 \"p\" $0 of 1 by 0 0 if $0 < 0 in 0 .\n".repeat(6));
+        y = twoSources();
         String longest = "a".repeat(30);
         String mapping = "map0:\"" + longest + "\"\"" + "p".repeat(15) + "\"$0of1by00000if$0<0in0.";
         String all = mapping.repeat(6) + " ".repeat(500 - 6 * mapping.length());
         dueRead(y, all, 6);
-        due("printed", printed(y), ("map 0 : \"" + longest + "\" \"" + "p".repeat(15)
-                + "\" $0 of 1 by 0 0 if $0 < 0 in 0 .\n").repeat(6));
+        String due = ("map 0 : \"" + longest + "\" \"" + "p".repeat(15)
+                + "\" $0 of 1 by 0 0 if $0 < 0 in 0 .\n").repeat(6);
+        due("print()", y.print(), due.length());
+        for (int i = 0; i < due.length(); i += 2) {
+            due("at(" + i + ")", y.at(i), due.charAt(i));
+        }
         due("read of no text", y.read(), 0);
         due("print()", y.print(), 0);
     }
