@@ -46,6 +46,7 @@ public final class TextBoundariesTest {
         readOfAnEmptyText();
         readThatFails();
         readThatIsGood();
+        readAfterOtherReads();
         printOfNothing();
         printedNumbers();
         printedEscapes();
@@ -556,6 +557,11 @@ public final class TextBoundariesTest {
             Arrays.fill(columns, 1);
             range(columns, "map #:_0 \"p\" $0.", sources);
         }
+        // What is no number is wrong, also where no number may be.
+        wrongAt(with(), "map ^/");
+        wrongAt(with(), "map ^:");
+        wrongAt(with(), "map ^x");
+        wrongAt(with(), "map^");
         // One that comes later is one then.
         MappingText x = with(2);
         mayNotAt(x, "map ^1:_0 \"p\" $0.");
@@ -581,6 +587,8 @@ public final class TextBoundariesTest {
                     }
                 }
                 mayNotAt(with(columns), mapping + "^9999 by 0 0.");
+                wrongAt(with(columns), mapping + "^/ by 0 0.");
+                wrongAt(with(columns), mapping + "^: by 0 0.");
             }
         }
     }
@@ -801,6 +809,26 @@ public final class TextBoundariesTest {
         due("type beyond 500", x.type(' ', 1), FULL);
     }
 
+    private static void readAfterOtherReads() {
+        sentence("how many mappings there are now: those of this text, and nothing of the ones before");
+        String[] mappings = {"map 0 : \"s\" \"p\" \"o\" .\n", "map 1 : _3 \"p{2}q\" $1 of 0 by 3 1 if $3 < 70 in 9 .\n",
+            "map 0 : \"\" \"\" \"\" in 0 .\n", "map 1 : _0 \"{0}\" _2 if null $2 .\n", "map 0 : \"{0}{1}\" \"\\\\\" $1 if $0 = 9999 in 3 .\n",
+            "map 0 : \"abc\" \"p\" $3 of 1 by 0 2 .\n", "map 1 : \"s\" \"p\" $3 if $1 > 0 .\n"};
+        for (String before : mappings) {
+            for (String now : mappings) {
+                MappingText x = with(2, 4);
+                reads(x, before + before, 2);
+                wrongAt(x, before + "^;");
+                reads(x, before, 1);
+                reads(x, now, 1);
+                due("print", printed(x), now);
+                wrongAt(x, before + before + "^;");
+                reads(x, now + now, 2);
+                due("print", printed(x), now + now);
+            }
+        }
+    }
+
     // Promises 13 and 14.
 
     private static void printOfNothing() {
@@ -857,15 +885,16 @@ public final class TextBoundariesTest {
 
     private static void printOfTheMost() {
         sentence("print: .. how many bytes, of the longest text that grows the most");
-        // 500 bytes without a blank, six mappings with every part.
-        String names = "\"" + "a".repeat(30) + "\"\"" + "p".repeat(22);
-        String parts = "\"$0of1by00000if$0<0in0.";
+        // 500 bytes with no blank but one, six mappings with every part: each grows by 17 bytes.
+        String names = "\"" + "a".repeat(30) + "\"\"" + "p".repeat(24);
+        String parts = "\"$0of1by0 0if$0<0in0.";
         String text = ("map0:" + names + parts).repeat(5) + "map0:" + names + "pp" + parts;
         due("the text's length", text.length(), MOST_BYTES);
         MappingText x = with(1, 1);
         reads(x, text, 6);
         String printedParts = "\" $0 of 1 by 0 0 if $0 < 0 in 0 .\n";
         int due = 6 * ("map 0 : " + names + " " + printedParts).length() + 2;
+        due("what it grew to", due, MOST_BYTES + 6 * 17);
         due("print", x.print(), due);
         due("the last byte but two", x.at(due - 3), ' ');
         due("the last byte but one", x.at(due - 2), '.');

@@ -43,6 +43,7 @@ public final class TripleBoundariesTest {
         orderOfTerms();
         orderOfKinds();
         orderOfBytes();
+        triplesAfterOtherReads();
         triplesFromNoneToTheMost();
         tripleBeyondTheEnds();
         tripleWhats();
@@ -745,6 +746,38 @@ public final class TripleBoundariesTest {
                 "N:s,N:p,V:2,0 N:s,N:p,V:20,0 N:s,N:p,V:200,0 N:s,N:p,V:3,0");
     }
 
+    private static MappingText twoSmallSources() {
+        MappingText x = with(2, 2);
+        due("row", x.row(0, 1, 9999, 0, 0), 0);
+        due("row", x.row(0, 2, -1, 0, 0), 1);
+        due("row", x.row(1, 1, 30, 0, 0), 0);
+        due("row", x.row(1, 1, 4, 0, 0), 1);
+        return x;
+    }
+
+    private static void triplesAfterOtherReads() {
+        sentence("THE TRIPLES are the different ones that are given: by the mappings that there are now");
+        String[] texts = {"map 0:\"" + "z".repeat(20) + "\" \"" + "{0}".repeat(20) + "\" \"" + "y".repeat(20) + "\" in 9.", "map 0:_0 \"p\" $1.",
+            "map 0:\"s\" \"p\" $1 of 1 by 0 0.", "map 1:_1 \"pppppppp\" _0 if $1 < 30.", "map 0:\"a\" \"b{1}\" \"\".", "map 0:\"a\" \"b\" \"c\" if null $1."};
+        String[] want = {"N:zzzzzzzzzzzzzzzzzzzz,N:11111111111111111111,N:yyyyyyyyyyyyyyyyyyyy,9 "
+                + "N:zzzzzzzzzzzzzzzzzzzz,N:22222222222222222222,N:yyyyyyyyyyyyyyyyyyyy,9", "B:0.1,N:p,V:9999,0",
+            "N:s,N:p,V:30,0 N:s,N:p,V:4,0", "B:1.4,N:pppppppp,B:1.1,0", "", "N:a,N:b,N:c,0"};
+        int[] bads = {0, 0, 0, 0, 1, 0};
+        for (int before = 0; before < texts.length; before++) {
+            for (int now = 0; now < texts.length; now++) {
+                MappingText x = twoSmallSources();
+                reads(x, texts[before], 1);
+                due("triples before", all(x), want[before]);
+                reads(x, texts[before], 1);
+                reads(x, texts[now], 1);
+                due("triples now", all(x), want[now]);
+                due("bads now", x.bads(), bads[now]);
+                reads(x, texts[now], 1);
+                due("triples still", all(x), want[now]);
+            }
+        }
+    }
+
     private static void triplesFromNoneToTheMost() {
         sentence("How many triples there are");
         MappingText x = with(2, 2);
@@ -831,6 +864,12 @@ public final class TripleBoundariesTest {
         due("by 2 mappings and 16 rows", x.triple(0, 7), 32);
         reads(x, "map 0:\"s\" \"p\" $0 of 1 by 0 0.", 1);
         due("by 16 rows joined with 16", x.triple(0, 7), 256);
+        // Of several triples each has its own ways.
+        reads(x, "map 0:\"a\" \"p\" $0. map 0:\"b\" \"p\" $0. map 0:\"b\" \"p\" $0. map 0:\"c\" \"p\" $0 of 1 by 0 0. map 0:\"d\" \"p\" $0.", 5);
+        int[] ways = {16, 32, 256, 16};
+        for (int i = 0; i < ways.length; i++) {
+            due("ways of triple " + i, x.triple(i, 7), ways[i]);
+        }
         reads(x, "map 0:\"s\" \"p\" $0 of 1 by 0 0.".repeat(6), 6);
         due("the most ways", x.triple(0, 7), 1536);
         due("triples", x.triples(), 1);
