@@ -758,11 +758,13 @@ public final class TripleBoundariesTest {
     private static void triplesAfterOtherReads() {
         sentence("THE TRIPLES are the different ones that are given: by the mappings that there are now");
         String[] texts = {"map 0:\"" + "z".repeat(20) + "\" \"" + "{0}".repeat(20) + "\" \"" + "y".repeat(20) + "\" in 9.", "map 0:_0 \"p\" $1.",
-            "map 0:\"s\" \"p\" $1 of 1 by 0 0.", "map 1:_1 \"pppppppp\" _0 if $1 < 30.", "map 0:\"a\" \"b{1}\" \"\".", "map 0:\"a\" \"b\" \"c\" if null $1."};
+            "map 0:\"s\" \"p\" $1 of 1 by 0 0.", "map 1:_1 \"pppppppp\" _0 if $1 < 30.", "map 0:\"a\" \"b{1}\" \"\".", "map 0:\"a\" \"b\" \"c\" if null $1.",
+            "map 0:\"s\" \"p\" \"o\".", "map 0:\"sevensevenseve\" \"sevense\" \"sevensevenseve\"."};
         String[] want = {"N:zzzzzzzzzzzzzzzzzzzz,N:11111111111111111111,N:yyyyyyyyyyyyyyyyyyyy,9 "
                 + "N:zzzzzzzzzzzzzzzzzzzz,N:22222222222222222222,N:yyyyyyyyyyyyyyyyyyyy,9", "B:0.1,N:p,V:9999,0",
-            "N:s,N:p,V:30,0 N:s,N:p,V:4,0", "B:1.4,N:pppppppp,B:1.1,0", "", "N:a,N:b,N:c,0"};
-        int[] bads = {0, 0, 0, 0, 1, 0};
+            "N:s,N:p,V:30,0 N:s,N:p,V:4,0", "B:1.4,N:pppppppp,B:1.1,0", "", "N:a,N:b,N:c,0",
+            "N:s,N:p,N:o,0", "N:sevensevenseve,N:sevense,N:sevensevenseve,0"};
+        int[] bads = {0, 0, 0, 0, 1, 0, 0, 0};
         for (int before = 0; before < texts.length; before++) {
             for (int now = 0; now < texts.length; now++) {
                 MappingText x = twoSmallSources();
